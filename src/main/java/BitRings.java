@@ -505,7 +505,7 @@ public final class BitRings {
         int states = 8;
         boolean changed = true;
         final int[] bits = new int[MOST_STATES];
-        private final boolean[] been = new boolean[MOST_STATES];
+        private final int[] been = new int[MOST_STATES];
 
         boolean has(int s) {
             return s >= 0 && s < states;
@@ -585,11 +585,11 @@ public final class BitRings {
 
         /** The last state needs no case of its own: b is used up there, and the other bit closes the ring. */
         void fillPreferring(int b) {
-            Arrays.fill(been, false);
+            Arrays.fill(been, 0);
             int here = b == 1 ? 0 : states - 1;
             for (int i = 0; i < states; i++) {
-                been[here] = true;
-                int bit = been[lead(here, b)] ? 1 - b : b;
+                been[here] = 1;
+                int bit = been[lead(here, b)] == 1 ? 1 - b : b;
                 write(here, bit);
                 here = lead(here, bit);
             }

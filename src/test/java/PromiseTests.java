@@ -94,6 +94,10 @@ public final class PromiseTests {
         due(2, "told(1)", x.told(1), 4);
         due(2, "length(9)", x.length(9), 2);
         due(2, "feedback(511)", x.feedback(511), 0);
+        x.linear(1, 0);
+        due(2, "told(2)", x.told(2), 60);
+        x.length(9);
+        due(2, "told(2) behind length", x.told(2), 1);
     }
 
     private static void set() {
@@ -515,6 +519,10 @@ public final class PromiseTests {
         due(23, "1000", x.order(0, 4), 1);
         putBits(x, 0, 2, "0110");
         due(23, "0110", x.order(0, 4), 2);
+        putBits(x, 0, 0, "000100110101111");
+        due(23, "a row of a linear register of 4", x.order(0, 15), 4);
+        putBits(x, 0, 0, "001101110");
+        due(23, "001101110", x.order(0, 9), 5);
         x.sheet(0, 0, 600);
         due(23, "600 zeros", x.order(0, 600), 0);
         x.put(0, 599, 1);
