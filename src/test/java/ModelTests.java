@@ -5,10 +5,12 @@ import java.util.Random;
 
 /**
  * Long runs of calls, made by a fixed seed, beside a slow model that follows the document's words.
- * The model lets the machine throw and reads the fault off what it threw.
+ * The model lets the machine throw and reads the fault off what it threw. No run is longer than the calls
+ * for which an object is promised.
  */
 public final class ModelTests {
     private static final long LOST = Long.MIN_VALUE;
+    private static final int CALLS = 512;
     private static long asked = 0;
     private static int wrong = 0;
 
@@ -677,6 +679,7 @@ public final class ModelTests {
         final int seed;
         final int most;
         final StringBuilder said = new StringBuilder();
+        int callsLeft = CALLS;
 
         Run(int seed, int most) {
             this.seed = seed;
@@ -724,6 +727,11 @@ public final class ModelTests {
             return n > 1000000 ? limit + 1 : n;
         }
 
+        /** The document leaves open whether a run of no cells may begin beyond the row. */
+        int begin(int i, int n) {
+            return n == 0 ? 0 : i;
+        }
+
         int lane(int k) {
             Object row = k >= 0 && k < 4 ? m.sheets[k] : null;
             return row == null || random.nextInt(8) == 0 ? about(0, 2) : m.laneOf(row);
@@ -735,6 +743,7 @@ public final class ModelTests {
 
         void due(String call, long got, long want) {
             asked++;
+            callsLeft--;
             said.append(call).append(" = ").append(want).append('\n');
             if (got != want) {
                 wrong++;
@@ -841,7 +850,7 @@ public final class ModelTests {
                     break;
                 case 6:
                 case 7:
-                    int from = random.nextInt(3) == 0 ? i : 0;
+                    int from = random.nextInt(3) == 0 ? begin(i, n) : 0;
                     due("out(" + s + ", " + k + ", " + from + ", " + n + ")", x.out(s, k, from, n),
                         m.answer(true, false, () -> m.out(s, k, from, n)));
                     break;
@@ -878,7 +887,7 @@ public final class ModelTests {
                 default:
                     int taken = random.nextBoolean() ? Math.min(n, m.f.length) : n;
                     int to = random.nextBoolean() ? 0 : s;
-                    int begin = random.nextBoolean() ? 0 : i;
+                    int begin = random.nextBoolean() ? 0 : begin(i, taken);
                     due("take(" + k + ", " + lane + ", " + begin + ", " + taken + ", " + to + ")",
                         x.take(k, lane, begin, taken, to),
                         m.answer(true, false, () -> m.take(k, lane, begin, taken, to)));
@@ -900,88 +909,108 @@ public final class ModelTests {
             }
         }
 
-        void lookAtAll() {
-            for (int s = 0; s < m.f.length; s++) {
+        void look() {
+            int s = state();
+            int k = sheet();
+            int i = cell(k);
+            int lane = lane(k);
+            if (random.nextBoolean()) {
+                due("feedback(" + s + ")", x.feedback(s), s < 0 || s >= m.f.length ? -1 : m.f[s]);
+            } else {
+                due("at(" + k + ", " + i + ", " + lane + ")", x.at(k, i, lane),
+                    m.answer(true, true, () -> m.at(k, i, lane)));
+            }
+        }
+
+        void lookAtFeedbacks() {
+            for (int s = 0; s < m.f.length && callsLeft > 0; s++) {
                 due("feedback(" + s + ")", x.feedback(s), m.f[s]);
             }
-            for (int k = 0; k < 4; k++) {
-                Object row = m.sheets[k];
-                if (row == null) {
-                    due("put", x.put(k, 0, 0), -11);
-                    m.fault = 1;
-                    continue;
-                }
-                for (int i = 0; i < m.size(row); i++) {
-                    due("at(" + k + ", " + i + ")", x.at(k, i, m.laneOf(row)), m.cell(row, i));
-                }
-                due("at the end", x.at(k, m.size(row), m.laneOf(row)), LOST);
-                m.fault = 3;
+        }
+
+        void call() {
+            int kind = random.nextInt(20);
+            if (kind < 9) {
+                registerCall();
+            } else if (kind < 17) {
+                sheetCall();
+            } else {
+                partCall();
             }
         }
 
-        void go(int calls) {
-            for (int c = 0; c < calls; c++) {
-                int kind = random.nextInt(20);
-                if (kind < 9) {
-                    registerCall();
-                } else if (kind < 17) {
-                    sheetCall();
-                } else {
-                    partCall();
+        void go() {
+            // a call, and what it left in fault() and in trace()
+            while (callsLeft > 150) {
+                call();
+                if (random.nextInt(3) == 0) {
+                    due("fault()", x.fault(), m.fault);
                 }
-                due("fault()", x.fault(), m.fault);
-                due("trace()", x.trace(), m.trace);
-                if (c % 64 == 63) {
-                    lookAtAll();
+                if (random.nextInt(8) == 0) {
+                    due("trace()", x.trace(), m.trace);
                 }
             }
+            due("fault()", x.fault(), m.fault);
+            due("trace()", x.trace(), m.trace);
+            while (callsLeft > 70) {
+                look();
+            }
+            lookAtFeedbacks();
         }
     }
 
+    /** Rows of 600 bits: outputs of many registers, pieced together, and single cells among them. */
     private static void longRows() {
-        Random random = new Random(600);
-        for (int round = 0; round < 6; round++) {
+        for (int round = 0; round < 12; round++) {
             Run run = new Run(1000 + round, 9);
-            run.x.sheet(0, 0, 600);
-            run.m.sheet(0, 0, 600);
-            int every = 1 << round;
-            for (int i = 0; i < 600; i++) {
-                if (random.nextInt(every) == 0 && random.nextBoolean()) {
-                    run.x.put(0, i, 1);
-                    run.m.put(0, i, 1);
-                }
+            run.due("sheet", run.x.sheet(0, round % 3, 600), run.m.sheet(0, round % 3, 600));
+            int pieces = round < 6 ? 0 : 60;
+            run.due("length(9)", run.x.length(9), run.m.length(9));
+            for (int j = 0; j < pieces; j++) {
+                int mask = run.pick(0, 511);
+                int s = run.pick(0, 511);
+                int i = run.pick(0, 599);
+                int n = Math.min(600 - i, run.pick(1, 40));
+                run.due("linear(" + mask + ", 0)", run.x.linear(mask, 0), run.m.linear(mask, 0));
+                run.due("out(" + s + ", 0, " + i + ", " + n + ")", run.x.out(s, 0, i, n), run.m.out(s, 0, i, n));
             }
-            for (int n : new int[] {64, 65, 127, 128, 129, 300}) {
-                run.due("order(" + n + ")", run.x.order(0, n), run.m.order(0, n));
+            for (int j = 0; j < 200 >> round; j++) {
+                int i = run.pick(0, 599);
+                run.due("put(0, " + i + ", 1)", run.x.put(0, i, 1), run.m.put(0, i, 1));
             }
-            for (int n : new int[] {599, 600}) {
-                run.due("greatest(" + n + ")", run.x.greatest(0, n), run.m.greatest(0, n));
-            }
-            run.due("period()", run.x.period(0), run.m.period(0));
+            readLongRow(run, round == 11 ? 600 : 300);
         }
-        Run full = new Run(2000, 9);
-        full.x.sheet(0, 0, 600);
-        full.m.sheet(0, 0, 600);
-        for (int i = 0; i < 600; i++) {
-            int bit = random.nextInt(2);
-            full.x.put(0, i, bit);
-            full.m.put(0, i, bit);
-        }
-        full.due("order(600)", full.x.order(0, 600), full.m.order(0, 600));
     }
 
-    /** Pure registers of all lengths, with any pairs: their rings, and the ways to join them. */
+    private static void readLongRow(Run run, int longest) {
+        for (int n : new int[] {63, 64, 65, 127, 128, 129, longest}) {
+            run.due("order(0, " + n + ")", run.x.order(0, n), run.m.order(0, n));
+        }
+        for (int n : new int[] {599, 600}) {
+            run.due("greatest(0, " + n + ")", run.x.greatest(0, n), run.m.greatest(0, n));
+        }
+        run.due("period(0)", run.x.period(0), run.m.period(0));
+    }
+
+    private static Run turning(int seed, int n) {
+        Run run = new Run(seed, 9);
+        run.due("length(" + n + ")", run.x.length(n), run.m.length(n));
+        run.due("linear(1, 0)", run.x.linear(1, 0), run.m.linear(1, 0));
+        return run;
+    }
+
+    private static void turn(Run run, int t) {
+        run.due("turn(" + t + ")", run.x.turn(t), run.m.turn(t));
+    }
+
+    /** Pure registers of all lengths, with any pairs turned: their rings, and the ways to join them. */
     private static void pureRegisters() {
-        Random random = new Random(9);
         for (int n = 2; n <= 9; n++) {
             for (int round = 0; round < 12; round++) {
-                Run run = new Run(3000 + n, 9);
-                run.x.length(n);
-                run.m.length(n);
-                for (int t = 0; t < 1 << n - 1; t++) {
-                    int bit = round == 0 ? 0 : random.nextInt(1 + round) == 0 ? 1 : 0;
-                    run.x.set(2 * t + 1 - bit, 1);
-                    run.m.set(2 * t + 1 - bit, 1);
+                Run run = turning(3000 + 20 * n + round, n);
+                int turns = round == 0 ? 0 : (1 << n - 1) / (1 + round);
+                for (int j = 0; j < turns; j++) {
+                    turn(run, run.pick(0, (1 << n - 1) - 1));
                 }
                 run.due("told(2)", run.x.told(2), run.m.told(2));
                 run.due("ways()", run.x.ways(), run.m.ways());
@@ -989,8 +1018,8 @@ public final class ModelTests {
                     run.due("ways() by trying", run.x.ways(), run.m.waysTried());
                 }
                 run.due("join()", run.x.join(), run.m.join());
-                run.lookAtAll();
                 run.due("ways()", run.x.ways(), 1);
+                run.lookAtFeedbacks();
             }
         }
     }
@@ -999,27 +1028,41 @@ public final class ModelTests {
     private static void dividedOnTheWay() {
         for (int seed : new int[] {90608, 135950, 144314, 326342, 5577662, 5876372}) {
             Random random = new Random(seed);
-            Run run = new Run(seed, 9);
-            run.x.length(9);
-            run.m.length(9);
-            run.x.linear(1, 0);
-            run.m.linear(1, 0);
+            Run run = turning(seed, 9);
             int flips = 2 + random.nextInt(10);
             for (int j = 0; j < flips; j++) {
-                int t = random.nextInt(256);
-                run.due("turn(" + t + ")", run.x.turn(t), run.m.turn(t));
+                turn(run, random.nextInt(256));
             }
             run.due("ways()", run.x.ways(), run.m.ways());
         }
     }
 
+    /** Pairs, found by a search, by the turning of which the WAYS become the least or the greatest rest. */
+    private static void restsAtTheEnds() {
+        restIs(9, 0, 25, 29, 37, 50, 86, 125, 130, 140, 155, 170, 201, 213, 244);
+        restIs(8, 0, 14, 21, 39, 40, 52, 71, 80, 82, 85, 86, 89, 95, 98, 112, 117, 124);
+        restIs(7, 1000002, 11, 12, 31, 51, 60);
+        restIs(8, 1000002, 28, 51, 53, 78, 111, 127);
+        restIs(9, 1000002, 31, 46, 47, 53, 79, 89, 124, 148, 181, 188, 193, 203, 220);
+    }
+
+    private static void restIs(int n, int rest, int... pairs) {
+        Run run = turning(4000 + n, n);
+        for (int t : pairs) {
+            turn(run, t);
+        }
+        run.due("ways() of the model", run.m.ways(), rest);
+        run.due("ways()", run.x.ways(), rest);
+    }
+
     public static void main(String[] args) {
-        for (int seed = 0; seed < 300; seed++) {
-            new Run(seed, seed % 10 == 0 ? 9 : 5).go(512);
+        for (int seed = 0; seed < 1200; seed++) {
+            new Run(seed, seed % 10 == 0 ? 9 : 5).go();
         }
         longRows();
         pureRegisters();
         dividedOnTheWay();
+        restsAtTheEnds();
         System.out.println(asked + " answers looked at, " + wrong + " wrong");
         if (wrong != 0) {
             System.exit(1);

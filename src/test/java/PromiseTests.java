@@ -1,68 +1,7 @@
 import java.util.Arrays;
 
 /** Each promise by hand: ordinary inputs, the edges that the document names, wrong inputs and their order. */
-public final class PromiseTests {
-    private static final int NULL = -11, CAST = -12, INDEX = -13, SIZE = -14;
-    private static final int UNKNOWN = -1, OUTSIDE = -2, STATE = -3;
-    private static final long LOST = Long.MIN_VALUE;
-    private static int asked = 0;
-    private static int wrong = 0;
-
-    private static void due(int promise, String call, long got, long want) {
-        asked++;
-        if (got != want) {
-            wrong++;
-            System.out.println("promise " + promise + ": " + call + " answered " + got + ", due is " + want);
-        }
-    }
-
-    private static BitRings registerOf(int n, int... ones) {
-        BitRings x = new BitRings();
-        x.length(n);
-        for (int s : ones) {
-            x.set(s, 1);
-        }
-        return x;
-    }
-
-    private static BitRings linearOf(int n, int mask, int one) {
-        BitRings x = new BitRings();
-        x.length(n);
-        x.linear(mask, one);
-        return x;
-    }
-
-    private static void putBits(BitRings x, int k, int lane, String bits) {
-        x.sheet(k, lane, bits.length());
-        for (int i = 0; i < bits.length(); i++) {
-            x.put(k, i, bits.charAt(i) - '0');
-        }
-    }
-
-    private static String cells(BitRings x, int k, int lane, int n) {
-        StringBuilder text = new StringBuilder();
-        for (int i = 0; i < n; i++) {
-            text.append(x.at(k, i, lane)).append(' ');
-        }
-        return text.toString().trim();
-    }
-
-    private static String feedbacks(BitRings x) {
-        StringBuilder text = new StringBuilder();
-        for (int s = 0; s < x.told(1); s++) {
-            text.append(x.feedback(s));
-        }
-        return text.toString();
-    }
-
-    private static void dueText(int promise, String what, String got, String want) {
-        asked++;
-        if (!got.equals(want)) {
-            wrong++;
-            System.out.println("promise " + promise + ": " + what + " was " + got + ", due is " + want);
-        }
-    }
-
+public final class PromiseTests extends Checks {
     private static void newObject() {
         BitRings x = new BitRings();
         due(1, "told(0)", x.told(0), 3);
@@ -789,9 +728,6 @@ public final class PromiseTests {
         as();
         trace();
         fault();
-        System.out.println(asked + " answers looked at, " + wrong + " wrong");
-        if (wrong != 0) {
-            System.exit(1);
-        }
+        end();
     }
 }
