@@ -93,11 +93,9 @@ public final class PartEdgeTests extends Checks {
             int state = s;
             for (int kind = 0; kind < 3; kind++) {
                 int asked = kind;
-                boolean fits = own[s] == kind;
-                faulty(30, "as(" + s + ", " + kind + ")", MIXED, x -> x.as(state, asked), fits ? 1 : CAST, fits ? 0 : 2);
+                asIs(own[s] == kind, "as(" + s + ", " + kind + ")", x -> x.as(state, asked));
             }
-            boolean on = own[s] != 2;
-            faulty(30, "as(" + s + ", 3)", MIXED, x -> x.as(state, 3), on ? 1 : CAST, on ? 0 : 2);
+            asIs(own[s] != 2, "as(" + s + ", 3)", x -> x.as(state, 3));
             for (int kind : beyond(0, 3)) {
                 refused(30, "as(" + s + ", " + kind + ")", MIXED, x -> x.as(state, kind), OUTSIDE);
             }
@@ -108,6 +106,10 @@ public final class PartEdgeTests extends Checks {
                 refused(30, "as(" + s + ", " + kind + ")", MIXED, x -> x.as(s, asked), UNKNOWN);
             }
         }
+    }
+
+    private static void asIs(boolean fits, String what, Call call) {
+        faulty(30, what, MIXED, call, fits ? 1 : CAST, fits ? 0 : 2);
     }
 
     private static void asFollowsChanges() {

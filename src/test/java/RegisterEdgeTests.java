@@ -2,7 +2,9 @@
 public final class RegisterEdgeTests extends Checks {
     private static final Scene MIXED = Checks::mixedScene;
     private static final Scene PURE = Checks::pureScene;
+    /** Of linear(1, 0), which turns the bits of a state around, for the lengths 2 .. 9. */
     private static final int[] RINGS_OF_TURNING = {3, 4, 6, 8, 14, 20, 36, 60};
+    private static final int[] WAYS_OF_TURNING = {1, 2, 12, 576, 211834, 886172, 168259, 933761};
 
     private static int[] wrongStates(int n) {
         return beyond(0, (1 << n) - 1);
@@ -400,7 +402,8 @@ public final class RegisterEdgeTests extends Checks {
     private static void aboutEachState() {
         // 0 alone; 2 -> 5 -> 2; 1 -> 0; 4 -> 2; 3 -> 5; 6, 7 -> 3
         int[][] want = {
-            {0, 0, 0, 1}, {0, 1, 0, 0}, {1, 0, 0, 3}, {1, 1, 1, 2}, {1, 1, 0, 5}, {1, 0, 1, 4}, {1, 2, 1, 7}, {1, 2, 1, 6}
+            {0, 0, 0, 1}, {0, 1, 0, 0}, {1, 0, 0, 3}, {1, 1, 1, 2},
+            {1, 1, 0, 5}, {1, 0, 1, 4}, {1, 2, 1, 7}, {1, 2, 1, 6}
         };
         for (int s = 0; s < want.length; s++) {
             for (int what = 0; what < 4; what++) {
@@ -617,9 +620,8 @@ public final class RegisterEdgeTests extends Checks {
     // ---- promise 14
 
     private static void waysCounted() {
-        int[] want = {1, 2, 12, 576, 211834, 886172, 168259, 933761};
         for (int n = 2; n <= 9; n++) {
-            due(14, "ways() of length " + n, linearOf(n, 1, 0).ways(), want[n - 2]);
+            due(14, "ways() of length " + n, linearOf(n, 1, 0).ways(), WAYS_OF_TURNING[n - 2]);
             due(14, "ways() of one ring", preferringOf(n, 1).ways(), 1);
         }
         still(14, "ways()", PURE, x -> x.ways(), 2);
@@ -645,6 +647,89 @@ public final class RegisterEdgeTests extends Checks {
         due(14, "ways() of a smaller one", x.ways(), 2);
     }
 
+    private static void waysOnOneObject() {
+        int[] lengths = {2, 3, 4, 5, 6, 7, 8, 9, 8, 7, 6, 5, 4, 3, 2};
+        BitRings x = new BitRings();
+        for (int n : lengths) {
+            x.length(n);
+            x.linear(1, 0);
+            due(14, "ways() of length " + n + " behind others", x.ways(), WAYS_OF_TURNING[n - 2]);
+        }
+    }
+
+    // ---- promises 12 to 14 for all small pure registers
+
+    /** The bit t of turned tells whether the even one of pair t has feedback 1. */
+    private static BitRings pureOf(int n, int turned) {
+        BitRings x = linearOf(n, 1, 0);
+        for (int t = 0; t < 1 << (n - 1); t++) {
+            if ((turned >> t & 1) == 1) {
+                x.turn(t);
+            }
+        }
+        return x;
+    }
+
+    private static void allSmallPure() {
+        for (int n = 2; n <= 4; n++) {
+            for (int turned = 0; turned < 1 << (1 << (n - 1)); turned++) {
+                String name = " of length " + n + ", turned " + turned;
+                due(14, "ways()" + name, pureOf(n, turned).ways(), waysByTurning(n, turned));
+                joinsAsTold(name, pureOf(n, turned), pureOf(n, turned));
+                turnsJoinOrPart(name, n, turned);
+            }
+        }
+    }
+
+    /** Goes through all sets of pairs, one turn each: what turn() answers is how many rings a set leaves. */
+    private static int waysByTurning(int n, int turned) {
+        BitRings x = pureOf(n, turned);
+        int wanted = x.told(2) - 1;
+        int found = wanted == 0 ? 1 : 0;
+        int set = 0;
+        for (int j = 1; j < 1 << (1 << (n - 1)); j++) {
+            int t = Integer.numberOfTrailingZeros(j);
+            set ^= 1 << t;
+            int rings = x.turn(t);
+            found += rings == 1 && Integer.bitCount(set) == wanted ? 1 : 0;
+        }
+        return found;
+    }
+
+    private static void joinsAsTold(String name, BitRings x, BitRings byHand) {
+        int turns = 0;
+        int rings = x.told(2);
+        for (int t = 0; t < byHand.told(1) / 2; t++) {
+            if (byHand.about(2 * t, 0) != byHand.about(2 * t + 1, 0)) {
+                byHand.turn(t);
+                turns++;
+            }
+        }
+        due(13, "join()" + name, x.join(), turns);
+        due(13, "joins to one" + name, turns, rings - 1);
+        dueText(13, "joined" + name, register(x), register(byHand));
+    }
+
+    private static void turnsJoinOrPart(String name, int n, int turned) {
+        BitRings x = pureOf(n, turned);
+        for (int t = 0; t < 1 << (n - 1); t++) {
+            boolean apart = x.about(2 * t, 0) != x.about(2 * t + 1, 0);
+            int rings = x.told(2);
+            due(12, "turn(" + t + ")" + name, x.turn(t), apart ? rings - 1 : rings + 1);
+            due(12, "turn(" + t + ") back" + name, x.turn(t), rings);
+        }
+    }
+
+    /** Of greater length, for each pure register whose feedback is a sum. */
+    private static void joinEachLinear() {
+        for (int n = 5; n <= 7; n++) {
+            for (int mask = 1; mask < 1 << n; mask += 2) {
+                int one = mask / 2 % 2;
+                joinsAsTold(" of linear(" + mask + ", " + one + ")", linearOf(n, mask, one), linearOf(n, mask, one));
+            }
+        }
+    }
+
     // ---- promise 15
 
     private static void preferAtTheEnds() {
@@ -663,6 +748,20 @@ public final class RegisterEdgeTests extends Checks {
             due(15, "then the other", x.step(last, n + 1), 1 << (n - 1));
             due(15, "the last state leads to the first", x.step(last - 1, 1), last);
             due(15, "all states", x.ring(0, 0), 1 << n);
+        }
+    }
+
+    /** All feedbacks are written, whatever they were. */
+    private static void preferOverAnything() {
+        for (int n = 2; n <= 7; n++) {
+            for (int b = 0; b < 2; b++) {
+                String want = feedbacks(preferringOf(n, b));
+                for (int one = 0; one < 2; one++) {
+                    BitRings x = linearOf(n, 0, one);
+                    due(15, "prefer(" + b + ")", x.prefer(b), 1 << (n - 1));
+                    dueText(15, "over all " + one, feedbacks(x), want);
+                }
+            }
         }
     }
 
@@ -729,7 +828,11 @@ public final class RegisterEdgeTests extends Checks {
         joinKeepsFault();
         waysCounted();
         waysFollowChanges();
+        waysOnOneObject();
+        allSmallPure();
+        joinEachLinear();
         preferAtTheEnds();
+        preferOverAnything();
         preferWrittenOut();
         preferForgetsWhatWas();
         end();

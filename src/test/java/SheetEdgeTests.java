@@ -563,6 +563,50 @@ public final class SheetEdgeTests extends Checks {
         due(25, "period of a one at 300", oneAt(300).period(0), 301);
     }
 
+    /** Zeros but for each p-th cell: nothing shorter than p tells when the next one comes. */
+    private static BitRings oneEach(int p) {
+        BitRings x = new BitRings();
+        x.sheet(0, 0, FULLEST);
+        for (int i = p - 1; i < FULLEST; i += p) {
+            x.put(0, i, 1);
+        }
+        return x;
+    }
+
+    private static void longPeriods() {
+        // with those about a multiple of 64, as bits may be packed
+        int[] periods = {2, 3, 9, 10, 11, 32, 33, 63, 64, 65, 127, 128, 129, 191, 192, 193, 255, 256, 257, 299, 300};
+        for (int p : periods) {
+            BitRings x = oneEach(p);
+            due(23, "order of a one at each " + p, x.order(0, FULLEST), p);
+            due(24, "greatest of a one at each " + p, x.greatest(0, FULLEST), p - 1);
+            due(25, "period of a one at each " + p, x.period(0), p);
+            due(26, "learn of a one at each " + p, x.learn(0), p > 10 ? STATE : Math.max(2, p - 1));
+        }
+    }
+
+    /** One object reads long rows, then short ones: nothing of an earlier call is left. */
+    private static void readAgain() {
+        String bits = "0001011101";
+        BitRings x = oneEach(129);
+        putBits(x, 1, 1, bits);
+        x.sheet(2, 2, FULLEST);
+        for (int n = bits.length(); n >= 1; n--) {
+            String part = bits.substring(0, n);
+            putBits(x, 3, 0, part);
+            due(23, "the long row", x.order(0, FULLEST), 129);
+            due(23, "order of " + part, x.order(1, n), linearOrder(part));
+            due(24, "the long row", x.greatest(0, FULLEST), 128);
+            due(24, "greatest of " + part, x.greatest(1, n), greatestOrder(part));
+            due(25, "the long row", x.period(0), 129);
+            due(25, "period of " + part, x.period(3), leastPeriod(part));
+            due(26, "learn of " + part, x.learn(3), Math.max(2, greatestOrder(part)));
+            due(23, "zeros behind others", x.order(2, FULLEST), 0);
+            due(24, "zeros behind others", x.greatest(2, FULLEST), 0);
+            due(25, "zeros behind others", x.period(2), 1);
+        }
+    }
+
     /** By the output of a register of one feedback, so that it takes few calls. */
     private static BitRings zerosAndOnes(int zeros, int ones) {
         BitRings x = new BitRings();
@@ -724,6 +768,8 @@ public final class SheetEdgeTests extends Checks {
         theEmptyAndTheShortest();
         onlyTheFirstCount();
         theFullestRows();
+        longPeriods();
+        readAgain();
         rowsOfLongRegisters();
         readingRefused();
         learnAtTheEnds();
