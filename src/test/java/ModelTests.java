@@ -1040,6 +1040,7 @@ public final class ModelTests {
     /** Pairs, found by a search, by the turning of which the WAYS become the least or the greatest rest. */
     private static void restsAtTheEnds() {
         restIs(9, 0, 25, 29, 37, 50, 86, 125, 130, 140, 155, 170, 201, 213, 244);
+        restIs(7, 0, 0, 4, 5, 10, 15, 20, 25, 32, 34, 54, 57, 62, 63);
         restIs(8, 0, 14, 21, 39, 40, 52, 71, 80, 82, 85, 86, 89, 95, 98, 112, 117, 124);
         restIs(7, 1000002, 11, 12, 31, 51, 60);
         restIs(8, 1000002, 28, 51, 53, 78, 111, 127);
@@ -1047,12 +1048,25 @@ public final class ModelTests {
     }
 
     private static void restIs(int n, int rest, int... pairs) {
+        Run run = turned(n, pairs);
+        run.due("ways() of the model", run.m.ways(), rest);
+        run.due("ways()", run.x.ways(), rest);
+    }
+
+    /** Pairs, found by a search, for which 1000003 divides the last but one number on the way to the WAYS. */
+    private static void dividedAtTheLast() {
+        Run seven = turned(7, 12, 20, 22, 36, 37, 48, 52, 53, 55, 59, 60, 63);
+        seven.due("ways()", seven.x.ways(), seven.m.ways());
+        Run eight = turned(8, 3, 20, 32, 55, 63, 69, 85, 103);
+        eight.due("ways()", eight.x.ways(), eight.m.ways());
+    }
+
+    private static Run turned(int n, int... pairs) {
         Run run = turning(4000 + n, n);
         for (int t : pairs) {
             turn(run, t);
         }
-        run.due("ways() of the model", run.m.ways(), rest);
-        run.due("ways()", run.x.ways(), rest);
+        return run;
     }
 
     public static void main(String[] args) {
@@ -1062,6 +1076,7 @@ public final class ModelTests {
         longRows();
         pureRegisters();
         dividedOnTheWay();
+        dividedAtTheLast();
         restsAtTheEnds();
         System.out.println(asked + " answers looked at, " + wrong + " wrong");
         if (wrong != 0) {
